@@ -261,7 +261,7 @@ public final class FireLeave {
         int who = NONE;
         for (int h = 0; h < now.houses; h++) {
             for (int kind = 0; kind < KINDS; kind++) {
-                int loss = lossByOne(h, kind, n);
+                int loss = playWith(1 << h, kind, n).loss();
                 if (loss < least) {
                     least = loss;
                     who = 10 * h + kind;
@@ -282,12 +282,9 @@ public final class FireLeave {
         int least = NONE;
         for (int some = 0; some < 1 << now.houses; some++) {
             int size = Integer.bitCount(some);
-            if (size < fewest) {
-                lossByCooks(some, n);
-                if (trial.burnt == 0) {
-                    fewest = size;
-                    least = some;
-                }
+            if (size < fewest && playWith(some, COOK, n).burnt == 0) {
+                fewest = size;
+                least = some;
             }
         }
         if (least == NONE) {
@@ -336,7 +333,7 @@ public final class FireLeave {
         if (outside(some, 0, (1 << now.houses) - 1) || outside(n, 0, PLAN_NIGHTS)) {
             return BAD;
         }
-        return 1000 + lossAsItIs(n) - lossByCooks(some, n);
+        return 1000 + lossAsItIs(n) - playWith(some, COOK, n).loss();
     }
 
     public long share(int h, int n, int what) {
@@ -348,7 +345,7 @@ public final class FireLeave {
             if ((some >> h & 1) == 0) {
                 int before = Integer.bitCount(some);
                 int behind = now.houses - 1 - before;
-                int grown = lossByCooks(some, n) - lossByCooks(some | 1 << h, n);
+                int grown = playWith(some, COOK, n).loss() - playWith(some | 1 << h, COOK, n).loss();
                 sum += (long) grown * factorial(before) * factorial(behind);
             }
         }
@@ -363,8 +360,7 @@ public final class FireLeave {
         }
         long sum = 0;
         for (int out = 0; out < 1 << now.houses; out++) {
-            lossByOut(out, n);
-            if (trial.burnt == 0) {
+            if (playWith(out, DEAF, n).burnt == 0) {
                 sum += oddsOfOut(out, v);
             }
         }
@@ -377,7 +373,7 @@ public final class FireLeave {
         }
         long sum = 0;
         for (int out = 0; out < 1 << now.houses; out++) {
-            sum += oddsOfOut(out, v) * lossByOut(out, n);
+            sum += oddsOfOut(out, v) * playWith(out, DEAF, n).loss();
         }
         return partOfFraction(sum, power(10, now.houses), what);
     }
@@ -581,25 +577,12 @@ public final class FireLeave {
         return trial.loss();
     }
 
-    private int lossByOne(int h, int kind, int n) {
+    /** The trial behind n nights in which somebody of this kind answers in each of some houses. */
+    private City playWith(int some, int kind, int n) {
         startTrial();
-        trial.putKind(h, kind);
+        trial.putKindIn(some, kind);
         trial.passNights(n);
-        return trial.loss();
-    }
-
-    private int lossByCooks(int some, int n) {
-        startTrial();
-        trial.putKindInAll(some, COOK);
-        trial.passNights(n);
-        return trial.loss();
-    }
-
-    private int lossByOut(int out, int n) {
-        startTrial();
-        trial.putKindInAll(out, DEAF);
-        trial.passNights(n);
-        return trial.loss();
+        return trial;
     }
 
     /** Out of ten to the power of how many houses there are. */
@@ -698,6 +681,7 @@ public final class FireLeave {
         final int[] kind = new int[MOST_HOUSES];
         final int[] worth = new int[MOST_HOUSES];
         final int[] lost = new int[MOST_HOUSES];
+        /** What was burnt of each house since forgetLoss(); no copy takes it over. */
         final int[] burntOf = new int[MOST_HOUSES];
         int houses;
         int at;
@@ -723,7 +707,6 @@ public final class FireLeave {
             System.arraycopy(other.kind, 0, kind, 0, MOST_HOUSES);
             System.arraycopy(other.worth, 0, worth, 0, MOST_HOUSES);
             System.arraycopy(other.lost, 0, lost, 0, MOST_HOUSES);
-            System.arraycopy(other.burntOf, 0, burntOf, 0, MOST_HOUSES);
             houses = other.houses;
             at = other.at;
             hunger = other.hunger;
@@ -734,7 +717,7 @@ public final class FireLeave {
             given = other.given;
         }
 
-        /** From here on burnt, given and burntOf tell of the nights to come alone. */
+        /** From here on burnt, given and burntOf tell of what is to come alone. */
         void forgetLoss() {
             burnt = 0;
             given = 0;
@@ -749,16 +732,14 @@ public final class FireLeave {
             return h >= 0 && h < houses;
         }
 
-        boolean addHouse(int newKind, int newWorth) {
+        void addHouse(int newKind, int newWorth) {
             if (houses >= MOST_HOUSES) {
-                return false;
+                return;
             }
             kind[houses] = newKind;
             worth[houses] = newWorth;
             lost[houses] = 0;
-            burntOf[houses] = 0;
             houses++;
-            return true;
         }
 
         int allWorth() {
@@ -798,7 +779,7 @@ public final class FireLeave {
             }
         }
 
-        void putKindInAll(int some, int newKind) {
+        void putKindIn(int some, int newKind) {
             for (int h = 0; h < houses; h++) {
                 if ((some >> h & 1) == 1) {
                     kind[h] = newKind;
@@ -837,7 +818,9 @@ public final class FireLeave {
                 return;
             }
             int next = at + 1 < houses ? at + 1 : 0;
-            switch (kind[at]) {
+            // A cook who has nothing left answers as the polite do.
+            int answer = kind[at] == COOK && worth[at] == 0 ? POLITE : kind[at];
+            switch (answer) {
                 case RUDE:
                     temper = Math.min(temper + 1, MOST_TEMPER);
                     burn(next, temper);
@@ -846,26 +829,14 @@ public final class FireLeave {
                     hunger -= burn(at, hunger);
                     break;
                 case COOK:
-                    askCook();
+                    give(at, 1);
+                    temper = Math.max(temper - 1, 0);
                     break;
                 default:
-                    growHungry();
+                    hunger = Math.min(hunger + 1, MOST_HUNGER);
                     break;
             }
             at = next;
-        }
-
-        private void askCook() {
-            if (worth[at] == 0) {
-                growHungry();
-                return;
-            }
-            give(at, 1);
-            temper = Math.max(temper - 1, 0);
-        }
-
-        private void growHungry() {
-            hunger = Math.min(hunger + 1, MOST_HUNGER);
         }
 
         private void give(int h, int n) {
@@ -1032,7 +1003,7 @@ public final class FireLeave {
 
         /** The kind of token that the byte at a place belongs to. */
         private int signAt(int place) {
-            if (outside(place, 0, length - 1)) {
+            if (place < 0 || place >= length) {
                 return END;
             }
             int c = bytes[place];

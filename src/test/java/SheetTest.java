@@ -5,6 +5,7 @@ public final class SheetTest {
         sheets();
         narrowCells();
         reads();
+        lastCells();
         readsThatAreTorn();
         readsThatAreRefused();
         counts();
@@ -125,6 +126,25 @@ public final class SheetTest {
         Check.due("rule(7)", x.rule(7), 12);
         Check.due("read(3, 2, 2, 1)", x.read(3, 2, 2, 1), 1);
         Check.due("house(1, 2)", x.house(1, 2), 8);
+    }
+
+    private static void lastCells() {
+        for (int lane = 0; lane < 3; lane++) {
+            FireLeave x = Check.city("deaf 50;deaf 50;fire 0 20 0;");
+            x.sheet(1, lane, 40);
+            x.lay(1, 38, 1);
+            x.lay(1, 39, 6);
+            Check.due("read(1, " + lane + ", 38, 1)", x.read(1, lane, 38, 1), 1);
+            Check.due("house(1, 2)", x.house(1, 2), 6);
+            Check.due("read(1, " + lane + ", 38, 2)", x.read(1, lane, 38, 2), 1);
+            Check.due("torn()", x.torn(), 2);
+            Check.due("read(1, " + lane + ", 39, 1)", x.read(1, lane, 39, 1), 0);
+            for (int i = 0; i < 40; i++) {
+                x.lay(1, i, 1);
+            }
+            Check.due("read(1, " + lane + ", 0, 20)", x.read(1, lane, 0, 20), 20);
+            Check.due("house(1, 2)", x.house(1, 2), 32);
+        }
     }
 
     private static void readsThatAreTorn() {
