@@ -2,16 +2,26 @@
 final class Check {
     private static int wrong = 0;
     private static int asked = 0;
+    private static String heading = "";
 
     private Check() {
+    }
+
+    /** What is said ahead of each wrong answer from here on. */
+    static void under(String newHeading) {
+        heading = newHeading;
     }
 
     static void due(String call, long got, long want) {
         asked++;
         if (got != want) {
             wrong++;
-            System.out.println(call + " answered " + got + ", due is " + want);
+            System.out.println(heading + call + " answered " + got + ", due is " + want);
         }
+    }
+
+    static void bad(String call, long got) {
+        due(call, got, FireLeave.BAD);
     }
 
     /** A new object to which this text has been told. */
@@ -65,7 +75,7 @@ final class Check {
         asked++;
         if (!got.equals(want)) {
             wrong++;
-            System.out.println(what + ": " + got + ", due is " + want);
+            System.out.println(heading + what + ": " + got + ", due is " + want);
         }
     }
 
