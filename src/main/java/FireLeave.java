@@ -523,12 +523,12 @@ public final class FireLeave {
         trial.becomeLike(now);
         int tear = 0;
         int came = 0;
-        while (came < n && tear == 0) {
-            int place = f + 2 * came;
+        for (int i = 0; i < n && tear == 0; i++) {
+            int place = f + 2 * i;
             tear = sheet.tearOfPair(lane, place);
             if (tear == 0) {
                 if (trial.giveAhead(sheet.cellAt(place), sheet.cellAt(place + 1)) < 0) {
-                    return -20 - came;
+                    return -20 - i;
                 }
                 came++;
             }
