@@ -41,6 +41,18 @@ public final class EdgeHomeTest {
         Check.bad("no houses: best(20, 10)", none.best(20, 10));
     }
 
+    @Promise(number = 16, says = "KINDS of all HOUSES by which LOSS of n NIGHTS (0 to 20) is least")
+    static void bestBehindNightsThatLost() {
+        FireLeave x = Check.city("deaf 50;rude 50;cook 50;fire 0 20 9;offer 2 5;");
+        x.go(9);
+        Check.due("runs(20, 0), there is something to lose", x.runs(20, 0) > 0 ? 1 : 0, 1);
+        Check.due("best(20, 0), these NIGHTS alone", x.best(20, 0), 0);
+        for (int h = 0; h < 3; h++) {
+            x.runs(20, 0);
+            Check.due("best(20, " + (10 + h) + ")", x.best(20, 10 + h), 0);
+        }
+    }
+
     @Promise(number = 16, says = "the KIND in a HOUSE. BAD.")
     static void bestRefused() {
         FireLeave x = Check.city("cook 9;rude 9;");
