@@ -6,7 +6,9 @@ import java.lang.reflect.Modifier;
 import java.nio.file.Files;
 import java.nio.file.Path;
 import java.util.Arrays;
+import java.util.Map;
 import java.util.Set;
+import java.util.TreeMap;
 import java.util.TreeSet;
 import java.util.regex.Matcher;
 import java.util.regex.Pattern;
@@ -14,29 +16,27 @@ import java.util.stream.Collectors;
 
 /** The public face of the document, and such rules of the language as can be seen from outside. */
 public final class FaceTest {
-    private static final String[] FACE = {
-        "int feed(int)", "int end(int)", "int text()", "int fault()", "int rule(int)", "int house(int, int)",
-        "int alter(int, int, int)", "int set(int, int)", "int rain(int, boolean)", "int offer(int, int)",
-        "int go(int)", "int runs(int, int)", "int ahead(int, int)", "int bare(int)", "int best(int, int)",
-        "int change(int, int)", "int cooks(int, int)", "int appease(int, int)", "int pray(int)",
-        "int value(int, int)", "long share(int, int, int)", "long luck(int, int, int)", "long mean(int, int, int)",
-        "int see(int, int, int)", "int forget(int)", "int fits(int)", "int look(int)", "int drift(int, int, int)",
-        "int keep(int)", "int back(int)", "int sheet(int, int, int)", "int lay(int, int, int)",
-        "int read(int, int, int, int)", "int torn()", "int count(int)",
-    };
+    /** A call for each promise but the first, which is the constructor's. */
+    private static final int CALLS = 35;
+    private static final Face FACE = Face.ofDocument();
 
-    public static void main(String[] args) throws IOException {
+    public static void main(String[] args) throws IOException, ReflectiveOperationException {
         constants();
         members();
         source(Files.readString(Path.of(args.length > 0 ? args[0] : "src/main/java/FireLeave.java")));
         Check.finish();
     }
 
-    private static void constants() {
-        Check.due("BAD", FireLeave.BAD, -1);
-        Check.due("STATE", FireLeave.STATE, -2);
-        Check.due("FULL", FireLeave.FULL, -3);
-        Check.due("NONE", FireLeave.NONE, -4);
+    private static void constants() throws ReflectiveOperationException {
+        Map<String, Integer> shown = new TreeMap<>();
+        for (Field f : FireLeave.class.getDeclaredFields()) {
+            if (!Modifier.isPrivate(f.getModifiers())) {
+                Check.due(f + " is a public constant", f.getModifiers(), Modifier.PUBLIC | Modifier.STATIC | Modifier.FINAL);
+                shown.put(f.getName(), f.getInt(null));
+            }
+        }
+        Check.same("the constants", shown.toString(), FACE.constants().toString());
+        Check.same("the document's constants", FACE.constants().toString(), "{BAD=-1, FULL=-3, NONE=-4, STATE=-2}");
     }
 
     private static void members() {
@@ -54,14 +54,8 @@ public final class FaceTest {
                 names.add(m.getName());
             }
         }
-        Check.same("the face", shown.toString(), new TreeSet<>(Arrays.asList(FACE)).toString());
-        Set<String> fields = new TreeSet<>();
-        for (Field f : c.getDeclaredFields()) {
-            if (!Modifier.isPrivate(f.getModifiers())) {
-                fields.add(f.getName());
-            }
-        }
-        Check.same("the constants", fields.toString(), "[BAD, FULL, NONE, STATE]");
+        Check.due("calls of the document's face", FACE.calls().size(), CALLS);
+        Check.same("the face", shown.toString(), callsByTypes().toString());
         privateNames(c, names);
         for (Class<?> inner : c.getDeclaredClasses()) {
             Check.due(inner + " is static", Modifier.isStatic(inner.getModifiers()) ? 1 : 0, 1);
@@ -81,6 +75,15 @@ public final class FaceTest {
             boolean fine = !Modifier.isStatic(f.getModifiers()) || Modifier.isFinal(f.getModifiers());
             Check.due(f + " is static and changes", fine ? 0 : 1, 0);
         }
+    }
+
+    /** The document's calls without the names of their numbers, which the machine does not keep. */
+    private static Set<String> callsByTypes() {
+        Set<String> calls = new TreeSet<>();
+        for (String call : FACE.calls()) {
+            calls.add(call.replaceAll("(int|boolean) \\w+(?=[,)])", "$1"));
+        }
+        return calls;
     }
 
     private static String told(Method m) {
